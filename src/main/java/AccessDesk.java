@@ -404,7 +404,6 @@ public final class AccessDesk {
 
         void start(int session, int user) {
             owner[session] = user;
-            active[session] = 0;
             count[session] = 0;
         }
 
@@ -598,11 +597,7 @@ public final class AccessDesk {
             int node = nodes;
             kind[node] = newKind;
             parent[node] = newParent;
-            permitDuties[node] = 0;
-            denyDuties[node] = 0;
             targetFrom[node] = steps;
-            conditionFrom[node] = steps;
-            conditionTo[node] = steps;
             nodes++;
             return node;
         }
@@ -625,8 +620,8 @@ public final class AccessDesk {
     }
 
     /**
-     * The tape, and how it is read into a plan. Each reading method answers whether the text can still be right;
-     * if not, the reader has stopped at the byte that is wrong.
+     * The tape, and how it is read into a plan. Each reading method answers whether the text can
+     * still be right; if not, the reader has stopped at the byte that is wrong.
      */
     private static final class Reader {
         private static final int END = -1;
@@ -705,8 +700,7 @@ public final class AccessDesk {
         }
 
         private boolean readRule(int parent) {
-            int effect = next;
-            int rule = plan.addNode(effect, parent);
+            int rule = plan.addNode(next, parent);
             moveTo(at + 1);
             if (!readTarget(rule)) {
                 return false;
@@ -718,11 +712,9 @@ public final class AccessDesk {
             if (!readDuties('+')) {
                 return false;
             }
-            if (effect == 'p') {
-                plan.permitDuties[rule] = digits;
-            } else {
-                plan.denyDuties[rule] = digits;
-            }
+            // A rule has no other value than its effect that duties could be of.
+            plan.permitDuties[rule] = digits;
+            plan.denyDuties[rule] = digits;
             return skip(';');
         }
 
@@ -782,7 +774,6 @@ public final class AccessDesk {
                 isGoingOn = !skip(']');
             }
             plan.conditionFrom[node] = plan.steps;
-            plan.conditionTo[node] = plan.steps;
             return true;
         }
 

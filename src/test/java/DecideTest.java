@@ -25,6 +25,7 @@ public final class DecideTest {
         onlyOneApplicable();
         unsureTargets();
         duties();
+        largest();
         Due.end();
     }
 
@@ -274,5 +275,14 @@ public final class DecideTest {
         decides(10 * 0x01 + 1, "P{p+0;F[L=1]{p+1;}+2}");
         decides(10 * 0x07 + 1, "D{P{p+0;}+0P{p+1;}+1}+2");
         decides(10 * 0x1f + 1, "D{P{F{X{Y{p+0;}+1}+2}+3}+4}");
+    }
+
+    private static void largest() {
+        decides(10 * 0x81 + 1, "D{p+0;" + "p;".repeat(37) + "p+7;}");
+        decides(DENY, "D{" + "p;".repeat(38) + "d;}");
+        decides(PERMIT, "p[" + "a=0,".repeat(73) + "h=12];");
+        decides(NONE, "p[" + "a=0,".repeat(73) + "h=13];");
+        decides(NONE, "p?" + "!".repeat(293) + "h=12;");
+        decides(PERMIT, "p?" + "!".repeat(292) + "h=12;");
     }
 }
